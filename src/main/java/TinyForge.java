@@ -2,7 +2,7 @@ import java.util.NoSuchElementException;
 
 /**
  * A workshop for a tiny language: a text is typed in, forged into instructions for a small stack
- * machine, and run there on the numbers of an input.
+ * machine, and run there on the numbers of an input. What each call promises stands in DOC.md.
  */
 public final class TinyForge {
     private static final int MOST_CHARACTERS = 480;
@@ -23,10 +23,10 @@ public final class TinyForge {
     private static final int MOST_TICKS = 400;
     private static final int MOST_CALLS = 12;
 
-    // No token gives more than two instructions; a "while" gives three, but has its brackets too.
+    // No token gives more than two instructions; a "while" gives three, but its brackets none.
     private static final int MOST_INSTRUCTIONS = 2 * MOST_TOKENS;
-    // Variables, and what can wait at once: three values for each of eleven open brackets (the
-    // twelfth is the function's block), an index, and the value just worked out.
+    // Variables, and what can wait at once: three values in each of eleven open calls (the twelfth
+    // that is open is the function's block), an index, and the value just worked out.
     private static final int CELLS_OF_A_CALL = MOST_VARIABLES + 36;
     // Far above what 400 ticks of at most 440 instructions can need.
     private static final int MOST_STEPS = 1000000;
@@ -86,7 +86,6 @@ public final class TinyForge {
     private final Machine machine;
     private boolean forged;
 
-    /** An empty text, nothing forged, no input. */
     public TinyForge() {
         text = new Text();
         refusal = new Refusal();
@@ -101,7 +100,6 @@ public final class TinyForge {
         forged = false;
     }
 
-    /** Adds the n lowest bytes of a number, the lowest first, to the text: its length. */
     public int type(long characters, int n) throws IllegalArgumentException, IllegalStateException {
         if (n < 1 || n > BYTES_OF_A_LONG || !Text.areCharacters(characters, n)) {
             throw new IllegalArgumentException();
@@ -113,15 +111,14 @@ public final class TinyForge {
         return text.length;
     }
 
-    /** Makes the text empty: how long it was. */
     public int clear() {
         int length = text.length;
         text.length = 0;
         return length;
     }
 
-    /** Forges the text: how many functions it has. */
     public int forge() throws UnsupportedOperationException {
+        // A refused forge() ends what was forged and run before, too.
         machine.forget();
         refusal.forget();
         tokens.takeAll();
@@ -138,17 +135,14 @@ public final class TinyForge {
         return globals.functions;
     }
 
-    /** Why the latest forge() refused the text (1 to 4); 0 when it did not, or there was none. */
     public int why() {
         return refusal.reason;
     }
 
-    /** The place at which the latest forge() refused the text; -1 when it did not. */
     public int where() {
         return refusal.place;
     }
 
-    /** Puts a number into the input, behind the others: how many there are. */
     public int give(int v) throws IllegalStateException {
         if (input.count >= MOST_INPUT) {
             throw new IllegalStateException();
@@ -157,14 +151,12 @@ public final class TinyForge {
         return input.count;
     }
 
-    /** Makes the input empty: how many numbers it had. */
     public int empty() {
         int count = input.count;
         input.count = 0;
         return count;
     }
 
-    /** Runs what was forged: 0 it came to its end, 1 TRAP, 2 SPENT. */
     public int run() throws NoSuchElementException {
         if (!forged) {
             throw new NoSuchElementException();
@@ -172,12 +164,10 @@ public final class TinyForge {
         return machine.work();
     }
 
-    /** What main gave in the latest run; 0 when that came to no end, or there was none. */
     public int result() {
         return machine.result;
     }
 
-    /** How many numbers the latest run put out (k = -1), or number k of them, or 0. */
     public int output(int k) {
         if (k == -1) {
             return machine.outputs;
@@ -185,7 +175,6 @@ public final class TinyForge {
         return machine.outputAt(k);
     }
 
-    /** How many ticks the latest run had; 0 when there was none since the latest forge(). */
     public int ticks() {
         return machine.ticks;
     }
@@ -205,7 +194,7 @@ public final class TinyForge {
             return true;
         }
 
-        /** A name's characters as the bytes of a number. */
+        /** A name as a number: it has at most eight characters, so that one long holds it. */
         static long packed(String name) {
             long value = 0;
             for (int k = 0; k < name.length(); k++) {
@@ -305,7 +294,7 @@ public final class TinyForge {
         final Refusal refusal;
         final int[] kinds = new int[MOST_TOKENS];
         final int[] places = new int[MOST_TOKENS];
-        // A number's value, or a name's characters as the bytes of a long.
+        // A number's value, or a name as Text.packed() gives it.
         final long[] values = new long[MOST_TOKENS];
         int count = 0;
         // The place of the first token that there is no room for, or -1.
@@ -916,7 +905,7 @@ public final class TinyForge {
             signs(least);
         }
 
-        /** Reads what follows a value's first part. */
+        /** Apart from value(), as a statement may have read the first part already. */
         private void signs(int least) {
             for (int k = 0; k < MOST_TOKENS && strengthOf(cursor.kind()) >= least; k++) {
                 sign(cursor.kind());

@@ -180,6 +180,7 @@ public final class GrammarTest {
         Check.accepted("int main(){" + "if(1)".repeat(11) + "1;" + "else 2;".repeat(11) + "}");
         Check.refusedAtMark("int main(){" + "if(1)".repeat(11) + "1;else #!2;}", 2);
         Check.accepted("int main(){" + "if(1)1;".repeat(20) + "while(1)1;".repeat(5) + "}");
+        Check.accepted("int main(){" + "if(1)1;else 2;".repeat(20) + "}");
     }
 
     private static void openSigns() {

@@ -121,6 +121,8 @@ public final class NameTest {
 
     private static void functions() {
         Check.accepted(functionsFrom(1, 7) + "int main(){}", 8);
+        Check.accepted("int a[1];int b[1];int c[1];int d[1];" + functionsFrom(1, 6)
+                + "int main(){return g()+d[0];}int g(){}", 8);
         wrong(functionsFrom(1, 8) + "int #main(){}");
         wrong("int main(){}" + functionsFrom(1, 7) + "int #g(){}int h(){}");
         wrong("int f(){}int #f(){}int main(){}");

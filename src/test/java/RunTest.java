@@ -158,12 +158,17 @@ public final class RunTest {
         Check.ran("int main(){while(1)return 1;return 2;}", ENDED, 1, 2);
         Check.ran("int main(){int i=0;while(1){int j=0;while(j<3){j=j+1;if(i==2)return i*10+j;}i=i+1;}}",
                 ENDED, 21, 13);
+        // Values that nothing is done with must not pile up.
+        Check.ran("int a[1];int f(int n){return n;}int main(){int i=0;while(i<100){i;1+i;a[0];a[0]+i;-i;"
+                + "f(i);i=i+1;}a[0]=f(i)-f(1);return a[0];}", ENDED, 99, 204);
         Check.ran("int main(){int n=0;while(read()){int k=n+1;n=k;}return n;}", new int[] {1, -1, 5}, ENDED, 3, 5);
     }
 
     private static void functions() {
         Check.ran("int main(){}", ENDED, 0, 1);
         Check.ran("int f(){1;}int main(){return f()+5;}", ENDED, 5, 2);
+        Check.ran("int main(){" + "int a=1;{".repeat(11) + "int b=2;b=3;" + "}".repeat(12), ENDED, 0, 1);
+        Check.ran("int f(int a){{a=a+1;}}int main(){int x=3;f(x);return f(x)+x;}", ENDED, 3, 3);
         Check.ran("int f(int a){a=a+1;return a;}int main(){int a=1;int b=f(a);return a*10+b;}", ENDED, 12, 2);
         Check.ran("int f(){return 3;return 4;}int main(){f();return f();}", ENDED, 3, 3);
         Check.ran("int f(int n){if(n<2)return n;return f(n-1)+f(n-2);}int main(){return f(8);}", ENDED, 21, 68);

@@ -32,6 +32,8 @@ public final class TokenTest {
         Check.refusedAtMark("int main(){return #2147483648;}", 1);
         Check.refusedAtMark("int main(){return -#2147483648;}", 1);
         Check.refusedAtMark("int main(){return #4294967297;}", 1);
+        Check.refusedAtMark("int main(){return #21474836470;}", 1);
+        Check.refusedAtMark("int main(){return #21474836471;}", 1);
         Check.refusedAtMark("int main(){return #18446744073709551617;}", 1);
         Check.refusedAtMark("int main(){return #99999999999999999999999999999999;}", 1);
         Check.refusedAtMark("int main(){return #1a;}", 1);
@@ -92,6 +94,7 @@ public final class TokenTest {
 
     private static void order() {
         Check.refused(";".repeat(300) + "$", 1, 300);
+        Check.refused(";".repeat(479) + "$", 1, 479);
         Check.refused(";".repeat(300) + " 1a", 1, 301);
         Check.refused("int main(){return y;} } $ #", 1, 24);
         Check.refused("int main(){y=1;}}", 3, 16);
