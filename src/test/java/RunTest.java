@@ -161,6 +161,8 @@ public final class RunTest {
         // Values that nothing is done with must not pile up.
         Check.ran("int a[1];int f(int n){return n;}int main(){int i=0;while(i<100){i;1+i;a[0];a[0]+i;-i;"
                 + "f(i);i=i+1;}a[0]=f(i)-f(1);return a[0];}", ENDED, 99, 204);
+        Check.ran("int a[1];int f(int n){return n;}int main(){int i=0;while(i<390){a[0];a[0]+i;i=i+1;}"
+                + "return f(i)-f(1);}", ENDED, 389, 394);
         Check.ran("int main(){int n=0;while(read()){int k=n+1;n=k;}return n;}", new int[] {1, -1, 5}, ENDED, 3, 5);
     }
 
