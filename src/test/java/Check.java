@@ -3,6 +3,7 @@ final class Check {
     private static final int NOTHING = Integer.MIN_VALUE;
     private static int checks = 0;
     private static int wrong = 0;
+    private static String sentence = "";
 
     private Check() {
     }
@@ -11,8 +12,13 @@ final class Check {
         checks++;
         if (!want.equals(got)) {
             wrong++;
-            System.out.println(what + " answered " + got + ", due is " + want);
+            System.out.println(sentence + what + " answered " + got + ", due is " + want);
         }
+    }
+
+    /** The document's words that the checks behind this are about. */
+    static void sentence(String words) {
+        sentence = "\"" + words + "\": ";
     }
 
     /** A call whose exception is of interest. */
@@ -43,6 +49,28 @@ final class Check {
             bytes = bytes << 8 | part.charAt(k);
         }
         return bytes;
+    }
+
+    static void retype(TinyForge forge, String text) {
+        forge.clear();
+        typeAll(forge, text);
+    }
+
+    /** All that an object tells without being changed by that. */
+    static String told(TinyForge forge) {
+        StringBuilder told = new StringBuilder("why " + forge.why() + " where " + forge.where()
+                + " result " + forge.result() + " ticks " + forge.ticks() + " output");
+        for (int k = -1; k <= forge.output(-1); k++) {
+            told.append(' ').append(forge.output(k));
+        }
+        return told.toString();
+    }
+
+    /** The call throws, and all that the object tells stays. */
+    static void refusedCall(String what, TinyForge forge, Call call, String exception) {
+        String ahead = told(forge);
+        due(what, of(call), "throws " + exception);
+        due("what is told behind " + what, told(forge), ahead);
     }
 
     static TinyForge typed(String text) {

@@ -11,11 +11,6 @@ public final class ForgeTest {
         Check.end();
     }
 
-    private static void retype(TinyForge x, String text) {
-        x.clear();
-        Check.typeAll(x, text);
-    }
-
     private static void answersOfTheLatest() {
         TinyForge x = Check.typed("int main(){return y;}");
         Check.due("why() ahead of forge()", x.why(), 0);
@@ -25,17 +20,17 @@ public final class ForgeTest {
             Check.due("why()", x.why(), 4);
             Check.due("where()", x.where(), 18);
         }
-        retype(x, "int main(){} $");
+        Check.retype(x, "int main(){} $");
         Check.due("why() stays", x.why(), 4);
         Check.due("where() stays", x.where(), 18);
         Check.due("forge()", Check.of(x::forge), REFUSED);
         Check.due("why()", x.why(), 1);
         Check.due("where()", x.where(), 13);
-        retype(x, "int f(){}int main(){}int g(){}int a[2];");
+        Check.retype(x, "int f(){}int main(){}int g(){}int a[2];");
         Check.due("forge()", Check.of(x::forge), "3");
         Check.due("why()", x.why(), 0);
         Check.due("where()", x.where(), -1);
-        retype(x, "(");
+        Check.retype(x, "(");
         Check.due("forge()", Check.of(x::forge), REFUSED);
         Check.due("why()", x.why(), 3);
         Check.due("where()", x.where(), 0);
@@ -45,14 +40,14 @@ public final class ForgeTest {
         for (String wrong : new String[] {"$", ";".repeat(221), "int", "int f(){}"}) {
             TinyForge x = Check.forged("int main(){return 5;}");
             Check.due("run()", Check.of(x::run), "0");
-            retype(x, wrong);
+            Check.retype(x, wrong);
             Check.due("run() ahead of forge()", Check.of(x::run), "0");
             Check.due("forge()", Check.of(x::forge), REFUSED);
             Check.due("run()", Check.of(x::run), "throws NoSuchElementException");
             Check.due("result()", x.result(), 0);
             Check.due("ticks()", x.ticks(), 0);
             Check.due("output(-1)", x.output(-1), 0);
-            retype(x, "int main(){return 6;}");
+            Check.retype(x, "int main(){return 6;}");
             Check.due("forge()", Check.of(x::forge), "1");
             Check.due("run()", Check.of(x::run), "0");
             Check.due("result()", x.result(), 6);
@@ -76,11 +71,11 @@ public final class ForgeTest {
         TinyForge x = Check.forged("int a[16];int f(int p,int q){return p-q;}int main(){return f(9,1);}");
         Check.due("run()", x.run(), 0);
         Check.due("result()", x.result(), 8);
-        retype(x, "int b[2];int g(int p){return b[p];}int main(){b[1]=4;return g(1);}");
+        Check.retype(x, "int b[2];int g(int p){return b[p];}int main(){b[1]=4;return g(1);}");
         Check.due("forge()", Check.of(x::forge), "2");
         Check.due("run()", x.run(), 0);
         Check.due("result()", x.result(), 4);
-        retype(x, "int main(){return f(9,1);}");
+        Check.retype(x, "int main(){return f(9,1);}");
         Check.due("forge()", Check.of(x::forge), REFUSED);
         Check.due("where()", x.where(), 18);
     }

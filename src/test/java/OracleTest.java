@@ -16,51 +16,63 @@ public final class OracleTest {
     public static void main(String[] args) {
         int texts = args.length > 0 ? Integer.parseInt(args[0]) : TEXTS;
         long seed = args.length > 1 ? Long.parseLong(args[1]) : 1;
-        int[] reasons = new int[5];
-        int[] states = new int[3];
+        Comparison comparison = new Comparison();
         for (int k = 0; k < texts; k++) {
             Maker maker = new Maker(seed * 1000003 + k);
-            compare(maker.text(), maker.input(), reasons, states);
+            comparison.compare(maker.text(), maker.input());
         }
-        System.out.println("reasons " + Arrays.toString(reasons) + ", runs " + Arrays.toString(states));
-        for (int count : reasons) {
-            Check.due("each reason is met", count > texts / 100, true);
-        }
-        for (int count : states) {
-            Check.due("each end of a run is met", count > texts / 100, true);
-        }
-        Check.end();
+        comparison.end(texts);
     }
 
-    private static void compare(String text, List<Integer> input, int[] reasons, int[] states) {
-        if (text.length() > 480) {
-            return;
-        }
-        Oracle oracle = new Oracle(text);
-        TinyForge forge = Check.typed(text);
-        String what = " of " + text.replace('\n', ' ') + " with " + input;
-        reasons[oracle.why]++;
-        Check.due("forge()" + what, Check.of(forge::forge),
-                oracle.why == 0 ? "" + oracle.functions : "throws UnsupportedOperationException");
-        Check.due("why()" + what, forge.why(), oracle.why);
-        Check.due("where()" + what, forge.where(), oracle.where);
-        if (oracle.why != 0) {
-            return;
-        }
-        for (int number : input) {
-            forge.give(number);
-        }
-        Oracle.Run run = oracle.new Run(input);
-        states[run.state]++;
-        for (int times = 0; times < 2; times++) {
-            Check.due("run()" + what, Check.of(forge::run), "" + run.state);
-            Check.due("result()" + what, forge.result(), run.result);
-            Check.due("ticks()" + what, forge.ticks(), run.ticks);
-            List<Integer> output = new ArrayList<>();
-            for (int k = 0; k < forge.output(-1); k++) {
-                output.add(forge.output(k));
+    /** What the program and the Oracle say, and which answers have been met. */
+    static final class Comparison {
+        private final int[] reasons = new int[5];
+        private final int[] states = new int[3];
+
+        void compare(String text, List<Integer> input) {
+            if (text.length() > 480) {
+                return;
             }
-            Check.due("output" + what, output, run.output);
+            Oracle oracle = new Oracle(text);
+            TinyForge forge = Check.typed(text);
+            String what = " of " + text.replace('\n', ' ') + " with " + input;
+            reasons[oracle.why]++;
+            Check.due("forge()" + what, Check.of(forge::forge),
+                    oracle.why == 0 ? "" + oracle.functions : "throws UnsupportedOperationException");
+            Check.due("why()" + what, forge.why(), oracle.why);
+            Check.due("where()" + what, forge.where(), oracle.where);
+            if (oracle.why == 0) {
+                compareRuns(forge, oracle, input, what);
+            }
+        }
+
+        private void compareRuns(TinyForge forge, Oracle oracle, List<Integer> input, String what) {
+            for (int number : input) {
+                forge.give(number);
+            }
+            Oracle.Run run = oracle.new Run(input);
+            states[run.state]++;
+            for (int times = 0; times < 2; times++) {
+                Check.due("run()" + what, Check.of(forge::run), "" + run.state);
+                Check.due("result()" + what, forge.result(), run.result);
+                Check.due("ticks()" + what, forge.ticks(), run.ticks);
+                List<Integer> output = new ArrayList<>();
+                for (int k = 0; k < forge.output(-1); k++) {
+                    output.add(forge.output(k));
+                }
+                Check.due("output" + what, output, run.output);
+            }
+        }
+
+        void end(int texts) {
+            System.out.println("reasons " + Arrays.toString(reasons) + ", runs " + Arrays.toString(states));
+            for (int count : reasons) {
+                Check.due("each reason is met", count > texts / 100, true);
+            }
+            for (int count : states) {
+                Check.due("each end of a run is met", count > texts / 100, true);
+            }
+            Check.end();
         }
     }
 
