@@ -5,7 +5,7 @@ public final class BoundaryCallTest {
     private static final String REFUSED = "UnsupportedOperationException";
     private static final String NOTHING = "NoSuchElementException";
     private static final String TEXT = "int main(){print(read());print(read());return 7;}";
-    /** One text for each reason: at which place it is refused stands behind it. */
+    /** One text for each reason, and the places at which they are refused. */
     private static final String[] WRONG = {"int main(){}$", ";;;;".repeat(60), "int main(){", "int main(){x;}"};
     private static final int[] PLACES = {12, 220, 11, 11};
 
@@ -239,7 +239,7 @@ public final class BoundaryCallTest {
         }
     }
 
-    /** Texts at and beyond each bound, a # marking where one is refused; those that are right give 5. */
+    /** Texts at and beyond each bound: right ones give 5; of the others the reason stands ahead, and a # at the place. */
     private static String[] textsAtBounds() {
         StringBuilder functions = new StringBuilder();
         StringBuilder variables = new StringBuilder();
@@ -413,7 +413,7 @@ public final class BoundaryCallTest {
         Check.due("clear()", x.clear(), TEXT.length() + 1);
     }
 
-    /** Runs of which one came to its end, then one TRAP or SPENT, then none since a forge(). */
+    /** An object of which one run came to its end, and a second one ended in this way. */
     private static TinyForge ranThen(int state) {
         TinyForge x = Check.forged("int a[1];int main(){int n=read();print(n+3);if(n==1)a[n]=1;if(n==2)while(1)1;"
                 + "print(n+4);return 7;}");
