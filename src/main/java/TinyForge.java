@@ -754,23 +754,22 @@ public final class TinyForge {
             program.add(RETURN, 0, 0);
         }
 
+        /** Reads the parameters of a function: how many they are, those beyond four too. */
         private int parameters() {
-            parameter();
-            int count = 1;
-            for (; count < MOST_TOKENS && cursor.kind() == ','; count++) {
-                cursor.pass(',');
-                if (count >= MOST_PARAMETERS) {
-                    variables.mustNotMake(cursor.at + 1);
+            int count = 0;
+            do {
+                if (count > 0) {
+                    cursor.pass(',');
                 }
-                parameter();
-            }
+                cursor.pass(INT);
+                if (count >= MOST_PARAMETERS) {
+                    variables.mustNotMake(cursor.at);
+                }
+                variables.make(cursor.at);
+                cursor.pass(NAME);
+                count++;
+            } while (count < MOST_TOKENS && cursor.kind() == ',');
             return count;
-        }
-
-        private void parameter() {
-            cursor.pass(INT);
-            variables.make(cursor.at);
-            cursor.pass(NAME);
         }
 
         private void statements() {
